@@ -12,6 +12,7 @@ public final class ActTest {
         forgiven();
         undone();
         fortyAreKept();
+        fortyOfAllKinds();
         CHECK.end();
     }
 
@@ -211,5 +212,31 @@ public final class ActTest {
         CHECK.is("none is left", -1, isles.undo());
         CHECK.is("the first three stay", 1, isles.has(0));
         CHECK.is("with their debt", 1, isles.debt(0, 1));
+    }
+
+    private static void fortyOfAllKinds() {
+        BarterIsles isles = Check.told("name a 0 0;name bb 0 0;name cccc 0 0;fair 9 0 1;fair 10 1 2;fair 11 0 2;");
+        int[][] states = new int[46][];
+        for (int i = 0; i < 45; i++) {
+            states[i] = state(isles);
+            int one = i % 3;
+            int other = (one + 1 + i % 2) % 3;
+            if (i % 3 == 1) {
+                isles.year();
+            } else if (i % 4 == 0) {
+                isles.forgive(one, other);
+            } else {
+                isles.swap(one, other);
+            }
+        }
+        for (int i = 44; i >= 5; i--) {
+            CHECK.is("undo", i - 5, isles.undo());
+            CHECK.yes("as it was ahead of act " + i, java.util.Arrays.equals(states[i], state(isles)));
+        }
+        CHECK.is("none is left", -1, isles.undo());
+    }
+
+    private static int[] state(BarterIsles isles) {
+        return new int[] {isles.has(0), isles.has(1), isles.has(2), isles.debt(0, 1), isles.debt(0, 2), isles.debt(1, 2), isles.count(3)};
     }
 }

@@ -38,6 +38,11 @@ public final class LikeTest {
         CHECK.is("the first", 13, isles.glad(1));
         CHECK.noSuch("what 2", () -> isles.glad(2));
         CHECK.noSuch("what -1", () -> isles.glad(-1));
+        BarterIsles ends = Check.told(FIVE + "wish 0 4;wish 4 0 3;wish 3 4;");
+        CHECK.is("couples of the first and the last", 2, ends.glad(0));
+        CHECK.is("the first", 4, ends.glad(1));
+        ends.swap(0, 4);
+        CHECK.is("content", 0, ends.glad(0));
         BarterIsles none = Check.told(FIVE + "wish 0 1;wish 1 2;wish 2 0;");
         CHECK.is("none", 0, none.glad(0));
         CHECK.is("no first", -1, none.glad(1));

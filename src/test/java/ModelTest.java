@@ -18,9 +18,10 @@ public final class ModelTest {
     private final boolean heavy;
 
     private ModelTest(long seed) {
-        random = new Random(seed);
-        isles = 1 + random.nextInt(8);
-        heavy = seed % 10 == 0;
+        // Seeds side by side would begin alike.
+        random = new Random(seed * 0x9E3779B97F4A7C15L);
+        isles = 1 + Math.max(random.nextInt(8), random.nextInt(8));
+        heavy = seed % 20 == 0;
     }
 
     public static void main(String[] args) throws Exception {
@@ -86,7 +87,8 @@ public final class ModelTest {
             case 15 -> call("round", isle() - random.nextInt(2));
             case 16 -> call("leave");
             case 17, 18 -> call("swaps", arrangement(), among(3));
-            case 19, 20 -> call("ship", among(61), among(61), isle());
+            case 19 -> call("ship", among(61), among(61), isle());
+            case 20 -> call("ship", among(16), among(3), isle());
             case 21 -> call("joined", isle(), isle(), among(12) - 1);
             case 22 -> call("inside", isle(), isle());
             case 23, 24 -> call("shortest", random.nextInt(20) == 0 ? random.nextInt() : random.nextInt(1 << slow.n()), among(8) - 1);
@@ -196,13 +198,26 @@ public final class ModelTest {
     private void spoil(List<String> tokens) {
         for (int i = random.nextInt(3); i >= 0; i--) {
             int at = tokens.isEmpty() ? 0 : random.nextInt(tokens.size());
-            int way = random.nextInt(4);
+            int way = random.nextInt(6);
             if (way == 0 || tokens.isEmpty()) {
                 tokens.add(at, ODD[random.nextInt(ODD.length)]);
             } else if (way == 1) {
                 tokens.set(at, ODD[random.nextInt(ODD.length)]);
             } else if (way == 2) {
                 tokens.remove(at);
+            } else if (way == 3) {
+                int end = at;
+                while (end < tokens.size() - 1 && !tokens.get(end).equals(";")) {
+                    end++;
+                }
+                int begin = at;
+                while (begin > 0 && !tokens.get(begin - 1).equals(";")) {
+                    begin--;
+                }
+                tokens.addAll(random.nextBoolean() ? begin : end + 1, new ArrayList<>(tokens.subList(begin, end + 1)));
+            } else if (way == 4) {
+                String token = tokens.get(at);
+                tokens.set(at, Character.isDigit(token.charAt(0)) ? "" + random.nextInt(10) : token);
             } else {
                 tokens.add(at, tokens.get(random.nextInt(tokens.size())));
             }

@@ -107,6 +107,13 @@ public final class TextTest {
         fault("name \u00e9 0 0;", 1, 5);
         fault("name a -1 0;", 1, 7);
         fault("name a 0 0$", 1, 10);
+        fault("game a 0 0;", 1, 0);
+        fault("names a 0 0;", 1, 0);
+        fault("nam a 0 0;", 1, 0);
+        fault("name a 0 0 forth;", 1, 11);
+        fault("law nine;", 3, 4);
+        fault("law 1 hand 1;", 1, 6);
+        fault("law 1 er 1;", 1, 6);
     }
 
     private static void faultsOfNumbers() {

@@ -131,6 +131,14 @@ public final class WordTest {
         left(isles, 2, 50, "a");
         left(isles, 3, 9, "b");
         left(isles, 4, 1, "u");
+        BarterIsles vowels = Check.told("name beb 0 0;name bib 0 0;name bob 0 0;name bub 0 0;name byb 0 0;name bab 0 0;name hueo 0 0;");
+        left(vowels, 0, 9, "e");
+        left(vowels, 1, 9, "i");
+        left(vowels, 2, 9, "o");
+        left(vowels, 3, 9, "u");
+        left(vowels, 4, 9, "b");
+        left(vowels, 5, 9, "a");
+        left(vowels, 6, 9, "u");
         CHECK.noSuch("i -2", () -> isles.worn(0, 0, -2));
         CHECK.noSuch("name 5", () -> isles.worn(5, 100, -1));
         CHECK.illegal("100 mouths", () -> isles.worn(0, 100, -1));
