@@ -16,7 +16,7 @@ public final class RoomTest {
         before = room.getThreadAllocatedBytes(me);
         use(isles);
         long used = room.getThreadAllocatedBytes(me) - before - idle;
-        CHECK.yes("calls made " + used + " bytes", used < 1000);
+        CHECK.yes("calls made " + used + " bytes", used == 0);
         before = room.getThreadAllocatedBytes(me);
         BarterIsles another = new BarterIsles();
         long made = room.getThreadAllocatedBytes(me) - before - idle;
