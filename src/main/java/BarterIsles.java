@@ -558,6 +558,7 @@ public final class BarterIsles {
         int kind = END;
         int start = 0;
         int end = 0;
+        int value = 0;
         int fault = 0;
         int faultPlace = NONE;
 
@@ -593,41 +594,27 @@ public final class BarterIsles {
             while (start < length && (at(start) == ' ' || at(start) == '\n')) {
                 start++;
             }
-            int sign = at(start);
-            if (start >= length) {
-                kind = END;
-                end = start;
-            } else if (sign >= 'a' && sign <= 'z') {
-                kind = WORD;
-                end = endOfRow('a', 'z');
-            } else if (sign >= '0' && sign <= '9') {
-                kind = NUMBER;
-                end = endOfRow('0', '9');
-            } else {
-                kind = isSign(sign) ? sign : NO_TOKEN;
-                end = start + 1;
+            kind = start < length ? kindOf(at(start)) : END;
+            end = start < length ? start + 1 : start;
+            boolean row = kind == WORD || kind == NUMBER;
+            while (row && end < length && kindOf(at(end)) == kind) {
+                end++;
+            }
+            value = 0;
+            // Longer numbers are refused: their values are never asked for, and would wrap.
+            for (int i = start; kind == NUMBER && i < end && i < start + MOST_DIGITS; i++) {
+                value = 10 * value + at(i) - '0';
             }
         }
 
-        private int endOfRow(int least, int most) {
-            int place = start;
-            while (place < length && at(place) >= least && at(place) <= most) {
-                place++;
+        private static int kindOf(int sign) {
+            if (sign >= 'a' && sign <= 'z') {
+                return WORD;
             }
-            return place;
-        }
-
-        /** Longer numbers are refused: their values are never asked for, and would wrap. */
-        int value() {
-            int value = 0;
-            for (int i = 0; i < size() && i < MOST_DIGITS; i++) {
-                value = 10 * value + at(start + i) - '0';
+            if (sign >= '0' && sign <= '9') {
+                return NUMBER;
             }
-            return value;
-        }
-
-        private static boolean isSign(int sign) {
-            return ";()+-*/<=".indexOf((char) sign) >= 0;
+            return ";()+-*/<=".indexOf((char) sign) >= 0 ? sign : NO_TOKEN;
         }
 
         int size() {
@@ -667,21 +654,21 @@ public final class BarterIsles {
         boolean standsNumber(int least, int most) {
             if (kind != NUMBER) {
                 refuse(CANT_STAND);
-            } else if (size() > MOST_DIGITS || value() < least || value() > most) {
+            } else if (size() > MOST_DIGITS || value < least || value > most) {
                 refuse(TOO_MUCH);
             }
             return fault == 0;
         }
 
         int takeNumber(int least, int most) {
-            int taken = standsNumber(least, most) ? value() : least;
+            int taken = standsNumber(least, most) ? value : least;
             step();
             return taken;
         }
 
         /** Whether the number of one of those that were told stands here. */
         boolean standsTold(int told) {
-            if (standsNumber(0, 9999) && value() >= told) {
+            if (standsNumber(0, 9999) && value >= told) {
                 refuse(NOT_TOLD);
             }
             return fault == 0;
@@ -1143,7 +1130,7 @@ public final class BarterIsles {
 
         private void readWish() {
             tape.step();
-            int isle = tape.standsTold(sea.isles) ? tape.value() : NONE;
+            int isle = tape.standsTold(sea.isles) ? tape.value : NONE;
             if (isle == NONE) {
                 return;
             }
@@ -1161,7 +1148,7 @@ public final class BarterIsles {
             if (!tape.standsTold(sea.isles)) {
                 return;
             }
-            int at = isle * MOST_ISLES + tape.value();
+            int at = isle * MOST_ISLES + tape.value;
             if (sea.wishes[at] != 0) {
                 tape.refuse(TOLD_ALREADY);
             }
@@ -1177,9 +1164,9 @@ public final class BarterIsles {
             }
             tape.step();
             sea.fairYears[sea.fairs] = tape.takeNumber(0, LAST_FAIR);
-            int one = tape.standsTold(sea.isles) ? tape.value() : NONE;
+            int one = tape.standsTold(sea.isles) ? tape.value : NONE;
             tape.step();
-            int other = tape.standsTold(sea.isles) ? tape.value() : NONE;
+            int other = tape.standsTold(sea.isles) ? tape.value : NONE;
             if (one == other) {
                 tape.refuse(TOLD_ALREADY);
             }
