@@ -16,16 +16,30 @@ final class Check {
     private final String test;
     private int wrong = 0;
     private int asked = 0;
+    // The sentence that is asked for, ahead of what is told of a wrong answer.
+    private String sentence = "";
 
     Check(String test) {
         this.test = test;
+    }
+
+    /** What is asked from here on is of these words in that part of the document. */
+    void of(Doc doc, String part, String words) {
+        sentence = "";
+        yes(part + " says: " + words, doc.touch(part, words));
+        sentence = part + ", '" + words + "': ";
+    }
+
+    /** What is asked from here on is of no sentence. */
+    void none() {
+        sentence = "";
     }
 
     void is(String what, long due, long got) {
         asked++;
         if (got != due) {
             wrong++;
-            System.out.println(test + ": " + what + " answered " + got + ", due is " + due);
+            System.out.println(test + ": " + sentence + what + " answered " + got + ", due is " + due);
         }
     }
 
@@ -81,6 +95,15 @@ final class Check {
             }
             isles.feed(row[0], row[1], row[2], row[3], row[4]);
         }
+    }
+
+    /** So many NAMES of one letter each, all at 0 0. */
+    static String names(int count) {
+        StringBuilder text = new StringBuilder();
+        for (int i = 0; i < count; i++) {
+            text.append("name ").append((char) ('a' + i)).append(" 0 0;");
+        }
+        return text.toString();
     }
 
     static int tell(BarterIsles isles, String text) {
