@@ -22,6 +22,10 @@ final class Doc {
     private final Map<String, boolean[]> touched = new LinkedHashMap<>();
 
     Doc() {
+        if (!Files.exists(AT)) {
+            System.out.println("no document at " + AT + ": its words are not looked up");
+            return;
+        }
         try {
             split(Files.readString(AT));
         } catch (IOException e) {
@@ -56,8 +60,15 @@ final class Doc {
         touched.put(part, new boolean[plain.length()]);
     }
 
+    boolean isThere() {
+        return !parts.isEmpty();
+    }
+
     /** Whether these words stand in that part; they are touched then. */
     boolean touch(String part, String words) {
+        if (!isThere()) {
+            return true;
+        }
         String text = parts.getOrDefault(part, "");
         int at = text.indexOf(words);
         if (at < 0 || words.isEmpty()) {

@@ -11,7 +11,7 @@ public final class EdgeTest {
             edges.run();
         }
         check.none();
-        check.is("promises", 37, doc.promises());
+        check.is("promises", doc.isThere() ? 37 : 0, doc.promises());
         for (String words : doc.untouched()) {
             check.yes("no test is of " + words, false);
         }

@@ -500,7 +500,7 @@ final class EdgesOfCharts extends Edges {
         isles.see(2, 2);
         isles.see(2, 1);
         isles.swap(0, 2);
-        isles.forgive(0, 2);
+        isles.forgive(0, 1);
         isles.swap(2, 0);
         check.yes("restored", isles.restore());
         same("as the later one", due, state(isles));

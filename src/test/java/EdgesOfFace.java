@@ -51,7 +51,7 @@ final class EdgesOfFace extends Edges {
                 check.yes("is there", false);
             }
         }
-        is("methods", 36, found);
+        is("methods", doc.isThere() ? 36 : 0, found);
     }
 
     private static String thrown(Method method) {
